@@ -772,11 +772,11 @@ public final class ForgottenCrafts {
         private final Row learntYears = new Row(MOST_PEOPLE);
         private final Row forgets = new Row(MOST_PEOPLE);
         private final Row earned = new Row(MOST_PEOPLE);
-        private int living = 0;
-        private int witnesses = 0;
-        private int nightWorkers = 0;
-        private int years = 0;
-        private int drawSeed = 0;
+        private int living;
+        private int witnesses;
+        private int nightWorkers;
+        private int years;
+        private int drawSeed;
 
         private Folk() {
             clear();
@@ -1040,7 +1040,6 @@ public final class ForgottenCrafts {
             int after = years >= all ? PERFECT : Math.min(PERFECT, folk.skillOf(p, t) + PERFECT / all);
             folk.setSkill(p, t, after);
             folk.learntYears.put(p, years);
-            folk.goneIn.put(cell(p, t), NONE);
             if (after == PERFECT) {
                 folk.learns.put(p, NONE);
             }
@@ -1050,13 +1049,13 @@ public final class ForgottenCrafts {
             if (!folk.knows(p, t)) {
                 if (isBackDue(p, t) && hasRoom(p)) {
                     folk.setSkill(p, t, 1);
-                    folk.goneIn.put(cell(p, t), NONE);
                 }
             } else if (folk.practises.at(p) != t) {
                 folk.setSkill(p, t, Math.max(1, folk.skillOf(p, t) - rules.rusts));
             }
         }
 
+        /** goneIn tells of what is not known alone: it is written anew whenever a trade is gone by forgetting. */
         private boolean isBackDue(int p, int t) {
             int gone = folk.goneIn.at(cell(p, t));
             return crafts.kinds.at(t) == BACK && gone != NONE && folk.years - gone >= BACK_AFTER;

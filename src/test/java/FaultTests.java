@@ -11,6 +11,7 @@ final class FaultTests {
         soundLaws();
         faultyLaws();
         whatTownTakesAway();
+        oneTownBehindAnother();
         CHECK.end();
     }
 
@@ -93,6 +94,10 @@ final class FaultTests {
         townFault("Trade plain 1 1;", 1, 0);
         townFault("tradeplain 1 1;", 1, 0);
         townFault("trad", 1, 0);
+        townFault("tradez plain 1 1;", 1, 0);
+        townFault("trade plainz 1 1;", 1, 6);
+        townFault("trade plain 1 1a;", 1, 15);
+        townFault("trade plain 9 09 0;", 1, 17);
         townFault("trades plain 1 1;", 1, 0);
         townFault("trade", 1, 5);
         townFault("trade  ", 1, 7);
@@ -181,6 +186,10 @@ final class FaultTests {
 
     private static void faultyLaws() {
         lawFault("law 1;", 1, 0);
+        lawFault(";", 1, 0);
+        lawFault("lent;;", 1, 5);
+        lawFault("lent;7;", 1, 5);
+        lawFault("holds 3;holdsz 3;", 1, 8);
         lawFault("holds;", 1, 5);
         lawFault("holds", 1, 5);
         lawFault("holds 0;", 2, 6);
@@ -223,5 +232,25 @@ final class FaultTests {
         CHECK.due("seed", x.seed(0), 77);
         CHECK.due("earned", x.person(0, 5), 0);
         CHECK.due("lives", x.told(2), 3);
+    }
+
+    private static void oneTownBehindAnother() {
+        StringBuilder town = new StringBuilder("trade half1 0;".repeat(5) + "person1;".repeat(6));
+        for (int k = 0; k < 30; k++) {
+            town.append("likes").append(k / 5).append(' ').append(k % 5).append(' ').append(k % 9 + 1).append(';');
+        }
+        ForgottenCrafts x = new ForgottenCrafts();
+        CHECK.due("30 likes", Check.town(x, town.toString()), 6);
+        CHECK.due("30 likes again", Check.town(x, town.toString()), 6);
+        CHECK.due("like", x.like(5, 4), 3);
+        CHECK.due("a faulty one", Check.town(x, town + "likes 5 4 1"), -14);
+        CHECK.due("fewer", Check.town(x, TWO + "person 3;person 4 1 5;"), 2);
+        CHECK.due("live", x.told(2), 3);
+        CHECK.due("trades", x.told(0), 2);
+        CHECK.due("nobody likes anything", x.like(0, 0) + x.like(0, 1) + x.like(1, 0) + x.like(1, 1), 0);
+        CHECK.due("skill of none other", x.skill(1, 0), 0);
+        CHECK.due("empty", x.town(), 0);
+        CHECK.due("nobody", x.told(2), 0);
+        CHECK.due("no trade", x.told(0), 0);
     }
 }

@@ -502,6 +502,23 @@ final class PromiseTests {
         x.want(2, 0);
         x.want(1, 4);
         due("the third does not know what it needs", x.changed(-1), Check.NONE);
+        ForgottenCrafts most = Check.of("trade plain 2 1;".repeat(6) + "person 1 5 60;".repeat(8), "");
+        for (int t = 0; t < 6; t++) {
+            most.want(t, t < 2 ? 2 : 1);
+        }
+        due("eight change, but one", most.changed(-1), 14);
+        int[] given = {0, 0, 1, 1, 2, 3, 4, 5};
+        for (int p = 0; p < 8; p++) {
+            due("given " + p, most.changed(p), given[p]);
+        }
+        for (int t = 0; t < 6; t++) {
+            most.want(t, 8);
+        }
+        due("48 of eight", most.changed(-1), Check.NONE);
+        for (int t = 0; t < 6; t++) {
+            most.want(t, t == 5 ? 8 : 0);
+        }
+        due("eight of eight", most.changed(-1), 0);
         ForgottenCrafts dead = Check.of("trade plain 1 1;person 69 0 90;person 5;", "");
         dead.year(1);
         dead.want(0, 1);
@@ -617,15 +634,16 @@ final class PromiseTests {
         due("empty", x.judge(), Check.NONE);
         due("right", x.write(0, 0, 90), 1);
         due("right", x.write(3, 3, 0), 2);
+        due("right", x.write(2, 3, 80), 3);
         due("none is wrong", x.judge(), Check.NONE);
-        due("wrong", x.write(0, 1, 59), 3);
-        due("right", x.write(1, 1, 99), 4);
-        due("the first", x.judge(), 2);
-        due("told", x.told(12), 4);
+        due("wrong", x.write(0, 1, 59), 4);
+        due("wrong", x.write(1, 1, 99), 5);
+        due("the first", x.judge(), 3);
+        due("told", x.told(12), 5);
         x.practise(0, 1);
         x.year(1);
         due("now", x.judge(), 0);
-        for (int i = 5; i <= 40; i++) {
+        for (int i = 6; i <= 40; i++) {
             due("write", x.write(0, 0, 0), i);
         }
         due("full", x.write(0, 0, 0), Check.FULL);
