@@ -266,7 +266,7 @@ public final class ForgottenCrafts {
         if (Integer.bitCount(hands) != 1) {
             return NONE;
         }
-        int p = Integer.numberOfTrailingZeros(hands);
+        int p = leastOf(hands);
         int yearsLeft = Math.max(0, rules.dies - folk.ages.at(p));
         return what == 0 ? p : crafts.worths.at(t) * yearsLeft;
     }
@@ -374,6 +374,15 @@ public final class ForgottenCrafts {
 
     private static boolean has(int set, int k) {
         return k >= 0 && k < 32 && (set >>> k & 1) != 0;
+    }
+
+    private static int leastOf(int people) {
+        for (int p = 0; p < MOST_PEOPLE; p++) {
+            if (has(people, p)) {
+                return p;
+            }
+        }
+        return NONE;
     }
 
     /** The place of a person's trade in a row of all people's trades; NONE, where every row is 0, for any other pair. */
