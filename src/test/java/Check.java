@@ -1,4 +1,4 @@
-/** Counts the answers of one test class that are not the due ones, and feeds texts to an object. */
+/** Counts the answers of one test, or of one class of tests, that are not the due ones; and feeds texts to an object. */
 final class Check {
     static final int NONE = ForgottenCrafts.NONE, UNKNOWN = ForgottenCrafts.UNKNOWN, OUTSIDE = ForgottenCrafts.OUTSIDE;
     static final int NOT = ForgottenCrafts.NOT, FULL = ForgottenCrafts.FULL;
@@ -23,6 +23,13 @@ final class Check {
 
     void isTrue(String what, boolean holds) {
         due(what, holds ? 1 : 0, 1);
+    }
+
+    /** Takes in what one test, run by itself, has counted; one that asks nothing is wrong. */
+    void add(Check test) {
+        test.isTrue("it asks something", test.asked > 0);
+        asked += test.asked;
+        wrong += test.wrong;
     }
 
     void end() {
