@@ -112,6 +112,9 @@ final class ChangePromises extends Promises {
         ForgottenCrafts x = of(PLAIN + "person 1;person 1;", "witnesses 3;");
         c.due("change", x.change(0, 0, NONE, NONE), 0);
         row(c, "then", new int[] {x.person(0, 2), x.person(0, 3), x.person(1, 6)}, 0, NONE, 0);
+        ForgottenCrafts enough = of(PLAIN + "person 1;person 1;", "witnesses 1;");
+        c.due("nor if there were enough", enough.change(0, 0, NONE, NONE), 0);
+        c.due("the other", enough.person(1, 6), 0);
     }
 
     static void promise11WithNothingGivenUpThereIsNoLender(Check c) {
@@ -171,6 +174,12 @@ final class ChangePromises extends Promises {
         ForgottenCrafts x = of(PLAIN + "person 1;person 1 0 50;", "witnesses 0;lent;");
         c.due("change", x.change(0, 0, 0, 1), 0);
         row(c, "then", new int[] {x.person(0, 2), x.person(0, 3), x.person(1, 2), x.person(1, 3)}, 0, NONE, NONE, 0);
+    }
+
+    static void promise11WhoKnowsWhatIsLentDoesNotForgetItToo(Check c) {
+        ForgottenCrafts x = of(PLAIN.repeat(2) + "person 1 1 50;person 1 1 50;", "witnesses 0;lent;");
+        c.due("change", x.change(0, 0, 1, 1), 0);
+        row(c, "the lender alone", new int[] {x.person(0, 3), x.person(1, 3)}, NONE, 1);
     }
 
     static void promise11TheLenderMustKnowIt(Check c) {
@@ -431,6 +440,27 @@ final class ChangePromises extends Promises {
             x.night(0, 0);
             c.due("from " + skill[0], x.skill(0, 0), skill[1]);
         }
+    }
+
+    static void promise13WhatComesToAHundredByNightIsLearntTillTheYear(Check c) {
+        ForgottenCrafts x = of("trade plain 7 1;person 1;", "");
+        x.change(0, 0, NONE, NONE);
+        x.year(3);
+        for (int i = 0; i < 3; i++) {
+            x.year(1);
+            x.night(0, 0);
+        }
+        row(c, "84 by day, 15 by night", new int[] {x.skill(0, 0), x.person(0, 2)}, 99, 0);
+        ForgottenCrafts y = of("trade plain 7 1;person 1;", "");
+        y.change(0, 0, NONE, NONE);
+        y.year(2);
+        for (int i = 0; i < 4; i++) {
+            y.year(1);
+            y.night(0, 0);
+        }
+        row(c, "84 by day, 20 by night", new int[] {y.skill(0, 0), y.person(0, 2)}, 100, 0);
+        y.year(1);
+        row(c, "then", new int[] {y.skill(0, 0), y.person(0, 2)}, 100, NONE);
     }
 
     static void promise13AForbiddenTradeToo(Check c) {
